@@ -79,7 +79,9 @@ public final class WhatWasHers {
         }
         lanes[row] = lane;
         sizes[row] = n;
-        Arrays.fill(items, row * MOST_ITEMS, row * MOST_ITEMS + n, 0);
+        for (int i = 0; i < n; i++) {
+            items[row * MOST_ITEMS + i] = 0;
+        }
         return fine(n);
     }
 

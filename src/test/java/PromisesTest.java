@@ -192,6 +192,18 @@ public final class PromisesTest {
         c.due("a life stays: hers", x.end(0, 0), 50);
         lifeIs(x, LAW, 0);
         c.due("another life in its place", x.count(3), 0);
+        c.due("no puts of the one before", x.count(4), 0);
+        c.due("nothing came", x.purse(0, 1), 0);
+        c.due("no things", x.purse(2, 3), 0);
+        c.due("no debts", x.purse(2, 2), 0);
+        lifeIs(x, LAW + "come 0 given 0 5;put 1 0 1 6;", 2);
+        lifeIs(x, LAW + "come 0 given 1 7;", 1);
+        c.due("no puts into the thing", x.thing(0, 5), 0);
+        c.due("none fed", x.fed(1, 0), 0);
+        c.due("none owed", x.owed(1, 0, 0), 0);
+        c.due("his alone", x.end(1, 0), 7);
+        c.due("a thing that is there no more", failed(x, LAW + "put 0 0 0 1;"), NOT - 146);
+        lifeIs(x, LAW + "agree 0 0 1;come 0 brought 0 1;", 2);
     }
 
     private static void lifeIs(WhatWasHers x, String text, long events) {
@@ -487,6 +499,22 @@ public final class PromisesTest {
         netIs(x, 2, 0, 1);
         endIs(x, 0, 260, 9);
         endIs(x, 1, 280, 9);
+        // Round and round: 3 by 10 of hers is his, 2 by 10 of his is both's, 5 by 10 of both's hers.
+        String ring = "law own own both own most parts stays 50;come 0 given 0 7;come 0 given 1 8;"
+            + "come 0 earned 0 5;put 0 0 1 3;put 0 1 2 2;put 0 2 0 5;";
+        WhatWasHers round = Checks.lived(ring + "now 1 0 16;now 1 1 12;now 1 2 27;");
+        netIs(round, 0, 20, 1);
+        netIs(round, 1, 15, 1);
+        netIs(round, 2, 20, 1);
+        owedIs(round, 0, 2, 10, 1);
+        owedIs(round, 1, 0, 6, 1);
+        owedIs(round, 2, 1, 3, 1);
+        WhatWasHers uneven = Checks.lived(ring + "now 1 0 13;now 1 1 12;now 1 2 15;");
+        netIs(uneven, 0, 160, 11);
+        netIs(uneven, 1, 150, 11);
+        netIs(uneven, 2, 130, 11);
+        endIs(uneven, 0, 225, 11);
+        endIs(uneven, 1, 215, 11);
         // 16 came, 6 of it from him: she owes 3 by 8 of what she keeps, which is -11.
         WhatWasHers debtor = Checks.lived("law own own own own most parts stays 50;"
             + "come 0 given 0 10;put 0 0 1 6;now 0 0 0;owes 0 0 11;");
@@ -581,6 +609,7 @@ public final class PromisesTest {
         hangsOn(LAW + "come 0 given 0 9;owes 0 0 1;put 0 0 0 5;", 2);
         hangsOn(LAW + "owes 0 0 1;agree 0 1 1;come 0 given 0 9;", 1);
         hangsOn(LAW + "land 0 0;owes 0 1 5;owes 0 1 9;", 1);
+        hangsOn(LAW + "owes 0 1 1;".repeat(29) + "owes 0 0 1;", 29);
         // Without it: 0, cut from a half below 0; with it -1 by 2, cut to 0, too.
         hangsOn(LAW + "owes 0 2 1;", 0);
         // -5 by 2 is cut to -2, and so is -4 by 2: the first two change nothing.
@@ -611,6 +640,8 @@ public final class PromisesTest {
         c.due("least", x.beforehand(MIN, MAX), Checks.BAD);
         WhatWasHers later = Checks.lived(LAW + "agree 0 1 0;come 0 given 1 10;");
         c.due("a later agreement is the latest", later.beforehand(0, 10), NONE);
+        WhatWasHers brought = Checks.lived(LAW + "come 0 brought 0 10;");
+        c.due("the first way", brought.beforehand(0, 1), 1);
         WhatWasHers half = Checks.lived(LAW + "owes 0 2 1;");
         c.due("a half below 0 is less than 0", half.beforehand(0, -1), NONE);
     }
