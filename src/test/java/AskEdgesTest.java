@@ -124,6 +124,9 @@ public final class AskEdgesTest {
         kindIs(OWN + "agree 0 4 0;buy 0 0 1 0;", 0, 3);
         kindIs(OWN + "come 0 given 0 1;come 0 given 0 1;put 0 1 1 1;", 0, 1);
         kindIs(OWN + "come 0 given 0 1;come 0 given 0 1;put 0 1 1 1;", 1, 3);
+        // A PUT into a THING is held against that THING's PURSE, whatever the others' are.
+        kindIs(OWN + "come 0 given 1 1;come 0 given 0 1;put 0 1 0 1;", 1, 1);
+        kindIs(OWN + "come 0 given 1 1;come 0 given 0 1;put 0 1 1 1;", 1, 3);
         // A land that leaves it where it was changes nothing.
         kindIs(ALL_OWN + "buy 0 2 1 0;land 1 0;", 0, 3);
     }

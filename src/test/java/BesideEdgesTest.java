@@ -28,6 +28,7 @@ public final class BesideEdgesTest {
         firstAgreement();
         agreementsOfTheLife();
         beforehandOfFullAndEmpty();
+        upToTheLastCall();
         c.end();
     }
 
@@ -328,5 +329,21 @@ public final class BesideEdgesTest {
         WhatWasHers great = Checks.lived("law own own own own most sums all 0;"
             + "buy 0 99 99 99;".repeat(10) + "now 0 9 99;put 0 9 0 99;");
         c.due("greatest life", great.beforehand(9999, -9999), NONE);
+    }
+
+    // "An object is used for at most 512 calls after it has been made"
+    private static void upToTheLastCall() {
+        String text = SHORT + "come 0 heired 1 99;come 0 given 0 5;" + "owes 0 1 1;".repeat(28);
+        WhatWasHers x = Checks.lived(text);
+        int calls = (text.length() + 7) / 8 + 1;
+        while (calls < 508) {
+            c.due("hangs, call " + calls, x.hangs(), 2);
+            c.due("beforehand, call " + calls, x.beforehand(104, -28), 9);
+            c.due("beside, call " + calls, x.beside(0, 0, 0), 5);
+            c.due("ask, call " + calls, x.ask(0, 0), 99 + 10);
+            calls += 4;
+        }
+        c.due("her end, at last", x.end(0, 0), 5);
+        c.due("his end, at last", x.end(1, 0), 99 - 28);
     }
 }

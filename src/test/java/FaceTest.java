@@ -34,6 +34,7 @@ public final class FaceTest {
             hold(!Modifier.isPublic(inside.getModifiers())
                 && !Modifier.isProtected(inside.getModifiers()), inside + " is not public");
             hold(inside.getDeclaredClasses().length == 0, inside + " has no class inside");
+            ownNames(inside);
         }
         hold(face.getDeclaredClasses().length <= 12, "twelve classes at most");
         System.out.println(wrong == 0 ? "the face is as due" : wrong + " faults of the face");
@@ -58,6 +59,14 @@ public final class FaceTest {
             if (!Modifier.isPublic(m.getModifiers())) {
                 hold(Modifier.isPrivate(m.getModifiers()), m + " is private");
                 hold(!names.contains(m.getName()), m + " has a name of its own");
+            }
+        }
+    }
+
+    private static void ownNames(Class<?> inside) {
+        for (Method m : inside.getDeclaredMethods()) {
+            for (String one : FACE) {
+                hold(!one.contains(" " + m.getName() + "("), m + " has a name of its own");
             }
         }
     }

@@ -239,6 +239,15 @@ public final class LifeEdgesTest {
         WhatWasHers none = Checks.lived(OWN + ALL_BOTH + "land 0 1;");
         c.due("no things to fall", none.count(3), 0);
         c.due("the law at the end", none.count(6), 1);
+        // Nine THINGS, and ten, as many as there is room for, all FALL; one that comes later does not.
+        pursesAre(OWN + ALL_BOTH + "buy 0 2 1 0;".repeat(9) + "land 5 1;land 6 0;buy 6 2 1 0;",
+            2, 2, 2, 2, 2, 2, 2, 2, 2, 0);
+        String ten = OWN + ALL_BOTH + "buy 0 2 1 0;".repeat(10) + "land 5 1;";
+        pursesAre(ten, 2, 2, 2, 2, 2, 2, 2, 2, 2, 2);
+        WhatWasHers full = Checks.lived(ten);
+        thingIs(full, 9, 2, 2, 9, 10, 3, 2, 4);
+        c.due("the last thing ahead of the land", full.whose(9, 4), 0);
+        c.due("the last thing behind it", full.whose(9, 5), 2);
     }
 
     // "REASON: 0 by the LAW, 1 by an AGREEMENT, 2 by a LAND that changed all"

@@ -487,6 +487,9 @@ public final class TextEdgesTest {
             bounded(ahead + "put 0 ", 0, things - 1, " 0 1;", things + 1);
             bounded(ahead + "put 0 " + (things - 1) + " ", 0, 2, " 1;", things + 1);
         }
+        // Events that bring nothing make no THING.
+        faulty(2, LAW + OWES + "land 0 0;agree 0 0 0;put 0 ^0 0 1;");
+        bounded(LAW + COME + OWES + BUY + "now 0 0 1;agree 0 0 0;put 0 ", 0, 1, " 0 1;", 6);
         bounded(LAW + COME + "put 0 0 2 ", 1, 99, ";", 2);
         faulty(1, LAW + COME + "put 0 0 2 1 ^1;");
     }
@@ -498,6 +501,8 @@ public final class TextEdgesTest {
             String ahead = LAW + BUY.repeat(things);
             bounded(ahead + "now 0 ", 0, things - 1, " 0;", things + 1);
         }
+        faulty(2, LAW + OWES + "land 0 0;agree 0 0 0;now 0 ^0 1;");
+        bounded(LAW + COME + OWES + BUY + "put 0 0 1 1;land 0 0;now 0 ", 0, 1, " 0;", 6);
         bounded(LAW + COME + "now 0 0 ", 0, 99, ";", 2);
         faulty(1, LAW + COME + "now 0 0 1 ^1;");
     }
